@@ -23,7 +23,6 @@ public final class ApplauseTallies {
     private static final int MOST_TIME = 99999;
     private static final int MOST_NIGHTS = 99;
     private static final int RECORDS = 6;
-    private static final int MOST_FOUND = 9;
     private static final int PAD_LENGTH = 80;
     private static final int MOST_PUT = 8;
     private static final int FIRST_CODE = 33;
@@ -253,7 +252,9 @@ public final class ApplauseTallies {
         }
 
         void add(int place, int more) {
-            store(place, at(place) + more);
+            if (place >= 0 && place < cells.length) {
+                cells[place] += more;
+            }
         }
 
         void fill(int value) {
@@ -271,9 +272,7 @@ public final class ApplauseTallies {
         }
 
         void copyFrom(Row other) {
-            for (int i = 0; i < cells.length && i < other.cells.length; i++) {
-                cells[i] = other.cells[i];
-            }
+            System.arraycopy(other.cells, 0, cells, 0, Math.min(cells.length, other.cells.length));
         }
     }
 
@@ -649,7 +648,7 @@ public final class ApplauseTallies {
                 case 1:
                     return seats.paid >> seat & 1;
                 case 2:
-                    return suspectedNow() >> seat & 1;
+                    return seats.early.at(seat) >= settings.at(FOUND) ? 1 : 0;
                 case 3:
                     return seats.early.at(seat);
                 case 4:
@@ -814,7 +813,7 @@ public final class ApplauseTallies {
 
     /** The text of orders or of a bill. */
     private static final class Pad {
-        private final Row codes = new Row(PAD_LENGTH);
+        private final int[] codes = new int[PAD_LENGTH];
         private int length;
 
         int length() {
@@ -827,7 +826,7 @@ public final class ApplauseTallies {
 
         /** Behind the end stands 0, which no order holds. */
         int codeAt(int place) {
-            return has(place) ? codes.at(place) : 0;
+            return place >= 0 && place < length && place < codes.length ? codes[place] : 0;
         }
 
         void clear() {
@@ -835,8 +834,8 @@ public final class ApplauseTallies {
         }
 
         private void append(int code) {
-            if (length < PAD_LENGTH) {
-                codes.store(length, code);
+            if (length >= 0 && length < codes.length) {
+                codes[length] = code;
                 length++;
             }
         }
@@ -888,9 +887,8 @@ public final class ApplauseTallies {
         private final Pad pad;
         private int place;
         private int kind;
-        private int target;
-        private int times;
         private int number;
+        private int times;
 
         OrderReader(Pad pad) {
             this.pad = pad;
@@ -932,27 +930,24 @@ public final class ApplauseTallies {
         private int carryOrderOutIn(House house) {
             switch (kind) {
                 case 'e':
-                    return house.endPiece(target);
+                    return house.endPiece(number);
                 case 'c':
-                    return house.takeClap(target);
+                    return house.takeClap(number);
                 case 'w':
-                    return house.letPass(target);
+                    return house.letPass(number);
                 case 'p':
-                    return house.playEncore(target);
+                    return house.playEncore(number);
                 case 'k':
                     return house.takeCurtain();
                 case 'n':
                     return house.endNight();
-                case 'h':
-                    return house.switchPay(target);
                 default:
-                    return NOT_POSSIBLE;
+                    return house.switchPay(number);
             }
         }
 
         private boolean readOrder() {
             kind = pad.codeAt(place);
-            target = 0;
             times = 1;
             switch (kind) {
                 case 'k':
@@ -962,31 +957,27 @@ public final class ApplauseTallies {
                 case 'e':
                 case 'p':
                     place++;
-                    return readTarget(9);
+                    return readNumber(1);
                 case 'w':
                 case 'h':
                     place++;
-                    return readTarget(99);
+                    return readNumber(2);
                 case 'c':
                     place++;
-                    return readTarget(99) && readTimes();
+                    return readNumber(2) && readTimes();
                 default:
                     return false;
             }
-        }
-
-        private boolean readTarget(int most) {
-            boolean read = readNumber(most);
-            target = number;
-            return read;
         }
 
         private boolean readTimes() {
             if (!readSign('*')) {
                 return true;
             }
-            boolean read = readNumber(99);
+            int seat = number;
+            boolean read = readNumber(2);
             times = number;
+            number = seat;
             return read;
         }
 
@@ -998,15 +989,15 @@ public final class ApplauseTallies {
             return true;
         }
 
-        /** Stops before a digit behind a leading zero or beyond the most: none can stand there. */
-        private boolean readNumber(int most) {
+        /** Stops before one digit too many and before one behind a leading zero: none can stand there. */
+        private boolean readNumber(int digits) {
             number = digitHere();
             if (number < 0) {
                 return false;
             }
             place++;
             int digit = digitHere();
-            if (number > 0 && digit >= 0 && number * 10 + digit <= most) {
+            if (digits > 1 && number > 0 && digit >= 0) {
                 number = number * 10 + digit;
                 place++;
             }

@@ -442,6 +442,22 @@ public final class PromiseTests {
         }
         undone("pass", PromiseTests::busy, y -> y.pass(99));
         lapsing();
+        timeAtItsMost();
+    }
+
+    /** The latest time lies behind what an object's first 512 calls can reach; the class keeps it all the same. */
+    private static void timeAtItsMost() {
+        ApplauseTallies x = new ApplauseTallies();
+        for (int i = 0; i < 1010; i++) {
+            x.pass(99);
+        }
+        due("count(1)", x.count(1), 99990);
+        due("pass(10) at 99990", x.pass(10), NOT_POSSIBLE);
+        due("pass(100) at 99990", x.pass(100), BAD_VALUE);
+        due("count(1)", x.count(1), 99990);
+        due("pass(9) at 99990", x.pass(9), 0);
+        due("count(1)", x.count(1), 99999);
+        due("pass(1) at 99999", x.pass(1), NOT_POSSIBLE);
     }
 
     private static void lapsing() {
@@ -540,8 +556,10 @@ public final class PromiseTests {
         x.pay(7);
         x.ends(4);
         x.clap(3);
-        x.clap(3);
+        x.clap(0);
         due("night()", x.night(), 8);
+        due("of(0, 5)", x.of(0, 5), 0);
+        due("of(0, 4)", x.of(0, 4), 0);
         due("count(0)", x.count(0), 0);
         due("count(1)", x.count(1), 7);
         due("count(2)", x.count(2), 1);
@@ -853,6 +871,12 @@ public final class PromiseTests {
         x.set(ENCORE, 900);
         x.loud(1, 1);
         due("clapsFor(1)", x.clapsFor(1), 81);
+        x.set(ENCORE, 121);
+        due("clapsFor(1) with 31 missing", x.clapsFor(1), 4);
+        x.set(ENCORE, 91);
+        due("clapsFor(1) with 1 missing", x.clapsFor(1), 1);
+        x.set(ENCORE, 101);
+        due("clapsFor(1) with 11 missing", x.clapsFor(1), 2);
         x.set(ENCORE, 90);
         due("clapsFor(1) at ENCORE: it still takes a clap", x.clapsFor(1), 1);
         x.set(ENCORE, 20);
@@ -919,6 +943,8 @@ public final class PromiseTests {
                 x.clap(29 - seat);
             }
         }
+        ApplauseTallies ends = made(y -> carried(y, "e0;c0;c29"));
+        due("ifFound(1) of the first and the last seat", ends.ifFound(1), 1 | 1 << 29);
         // Seat 29 has 10 early claps, 28 has 9, and so on.
         for (int found = 1; found < 10; found++) {
             int set = 0;
@@ -998,6 +1024,8 @@ public final class PromiseTests {
             faultIs(text + "*", text.length());
         }
         faultIs("e10", 2);
+        faultIs("e19", 2);
+        faultIs("p11", 2);
         faultIs("p00", 2);
         faultIs("e1*2", 2);
         faultIs("c00", 2);
@@ -1051,6 +1079,12 @@ public final class PromiseTests {
             busy(y);
             y.wipe();
         }, ApplauseTallies::carryOut, BAD_TEXT);
+        Script wiped = y -> {
+            busy(y);
+            y.wipe();
+        };
+        undone("carryOut", wiped, y -> carried(y, "e1;c2*9;w5;h7;n;e0;c5"));
+        undone("carryOut of none", wiped, y -> carried(y, "w0;n"));
         // One change with all of them, and also if none is carried out.
         ApplauseTallies z = made(PromiseTests::busy);
         z.undo();
