@@ -1053,6 +1053,11 @@ public final class PromiseTests {
         ApplauseTallies x = new ApplauseTallies();
         x.write();
         due("fault() of a bill", x.fault(), 2);
+        fill(x, "e5;k");
+        fill(x, "e");
+        due("fault() of e behind a longer text", x.fault(), 1);
+        x.put(packed("1"));
+        due("fault() of e1 behind a longer text", x.fault(), NONE);
     }
 
     private static int carried(ApplauseTallies x, String text) {
