@@ -1,193 +1,5 @@
-import java.util.ArrayList;
-import java.util.List;
-
 /** For each promise of DOC.md: ordinary inputs, the edges that it names, and wrong inputs. */
-public final class PromiseTests {
-    private static final int NO_SUCH = -1, BAD_VALUE = -2, BAD_TEXT = -3, TOO_MANY = -4, NOT_POSSIBLE = -5, NONE = -6;
-    private static final int DECAY = 0, ENCORE = 1, LAPSE = 2, EARLY = 3, FOUND = 4, CALL = 5;
-    private static final int[] LEAST = {1, 20, 1, 0, 1, 1};
-    private static final int[] MOST = {50, 900, 300, 9, 9, 900};
-    private static final int[] FIRST = {10, 200, 60, 2, 3, 50};
-    private static final int[] OUTSIDE = {Integer.MIN_VALUE, -1, 30, 31, 32, 64, Integer.MAX_VALUE};
-
-    private interface Script {
-        void on(ApplauseTallies x);
-    }
-
-    private interface Call {
-        int on(ApplauseTallies x);
-    }
-
-    private static int right = 0;
-    private static int wrong = 0;
-    private static int promise = 0;
-
-    private static void due(String call, long got, long want) {
-        if (got == want) {
-            right++;
-            return;
-        }
-        wrong++;
-        System.out.println("promise " + promise + ": " + call + " answered " + got + ", due is " + want);
-    }
-
-    private static ApplauseTallies made(Script script) {
-        ApplauseTallies x = new ApplauseTallies();
-        script.on(x);
-        return x;
-    }
-
-    /** Puts a text into the pad, in place of what was there. */
-    private static void fill(ApplauseTallies x, String text) {
-        x.wipe();
-        for (int from = 0; from < text.length(); from += 8) {
-            x.put(packed(text.substring(from, Math.min(from + 8, text.length()))));
-        }
-    }
-
-    private static long packed(String text) {
-        long number = 0;
-        for (char sign : text.toCharArray()) {
-            number = number << 8 | sign;
-        }
-        return number;
-    }
-
-    private static String padOf(ApplauseTallies x) {
-        StringBuilder text = new StringBuilder();
-        for (int place = 0; place < x.count(19); place++) {
-            text.append((char) x.sign(place));
-        }
-        return text.toString();
-    }
-
-    private static void pad(ApplauseTallies x, String want) {
-        String got = padOf(x);
-        if (got.equals(want)) {
-            right++;
-            return;
-        }
-        wrong++;
-        System.out.println("promise " + promise + ": the pad is " + got + ", due is " + want);
-    }
-
-    /** All that an object tells: few enough calls for the bound on its use; the slots come last. */
-    private static List<Integer> tellings(ApplauseTallies x, boolean history) {
-        List<Integer> all = new ArrayList<>();
-        for (int what = 0; what < (history ? 21 : 20); what++) {
-            all.add(x.count(what));
-        }
-        for (int seat = 0; seat < 30; seat++) {
-            for (int what = 0; what < 7; what++) {
-                all.add(x.of(seat, what));
-            }
-        }
-        for (int performer = 0; performer < 6; performer++) {
-            for (int what = 0; what < 4; what++) {
-                all.add(x.performer(performer, what));
-            }
-        }
-        for (int rank = 0; rank < x.count(4); rank++) {
-            all.add(x.owed(rank, 0));
-            all.add(x.owed(rank, 1));
-        }
-        for (int rank = 0; x.clapper(rank) >= 0; rank++) {
-            all.add(x.clapper(rank));
-        }
-        for (int rank = 0; x.record(rank, 0) >= 0; rank++) {
-            for (int what = 0; what < 4; what++) {
-                all.add(x.record(rank, what));
-            }
-        }
-        for (int place = 0; place < x.count(19); place++) {
-            all.add(x.sign(place));
-        }
-        all.add(x.clapsFor(0));
-        for (int slot = 0; slot < 2; slot++) {
-            all.add(x.restore(slot));
-            all.add(x.count(0));
-            all.add(x.count(1));
-            all.add(x.of(4, 6));
-        }
-        return all;
-    }
-
-    private static void same(String what, Script one, Script other) {
-        alike(what, tellings(made(one), true), tellings(made(other), true));
-    }
-
-    private static void alike(String what, List<Integer> one, List<Integer> other) {
-        due("tellings of " + what, other.size(), one.size());
-        for (int i = 0; i < Math.min(one.size(), other.size()); i++) {
-            if (!one.get(i).equals(other.get(i))) {
-                due("telling " + i + " of " + what, other.get(i), one.get(i));
-                return;
-            }
-        }
-    }
-
-    /** A call that returns an error changes nothing. */
-    private static void refused(String call, Script before, Call asked, int error) {
-        same(call + " changes nothing", before, x -> {
-            before.on(x);
-            due(call, asked.on(x), error);
-        });
-    }
-
-    /** A method that is no change records nothing and changes nothing. */
-    private static void quiet(String call, Script before, Call asked) {
-        same(call + " is no change", before, x -> {
-            before.on(x);
-            asked.on(x);
-        });
-    }
-
-    /** A change is undone whole, and is recorded even if nothing is different. */
-    private static void undone(String call, Script before, Call asked) {
-        ApplauseTallies changed = made(before);
-        int kept = changed.count(20);
-        due(call + " is no error", asked.on(changed) >= 0 ? 1 : 0, 1);
-        due("count(20) behind " + call, changed.count(20), Math.min(kept + 1, 6));
-        due("undo() behind " + call, changed.undo(), Math.min(kept + 1, 6) - 1);
-        alike("undo of " + call, tellings(made(before), false), tellings(changed, false));
-    }
-
-    /** A house in its second night, with something of everything. */
-    private static void busy(ApplauseTallies x) {
-        x.set(ENCORE, 40);
-        x.loud(4, 5);
-        x.pay(4);
-        x.pay(9);
-        x.ends(1);
-        x.clap(4);
-        x.pass(2);
-        x.ends(3);
-        x.clap(9);
-        x.clap(9);
-        x.save(0);
-        x.night();
-        x.ends(2);
-        x.clap(4);
-        x.pass(3);
-        x.clap(0);
-        x.ends(5);
-        x.clap(4);
-        x.clap(9);
-        x.put(packed("e3;c4"));
-    }
-
-    /** Eight encores owed: performers 0, 1, 2, 3, 4, 5, 0, 1, a second apart; the piece is 1's. */
-    private static void fullHouse(ApplauseTallies x) {
-        x.set(ENCORE, 20);
-        for (int i = 0; i < 8; i++) {
-            if (i > 0) {
-                x.pass(1);
-            }
-            x.ends(i % 6);
-            x.clap(7);
-        }
-    }
-
+public final class PromiseTests extends Checks {
     private static void newObject() {
         ApplauseTallies x = new ApplauseTallies();
         int[] numbers = {0, 0, 0, 0, 0, 0, 0, 0, NONE, NONE, 0, 0, 0, 10, 200, 60, 2, 3, 50, 0, 0};
@@ -226,13 +38,13 @@ public final class PromiseTests {
             due("set(" + what + ", most)", x.set(what, MOST[what]), LEAST[what]);
             due("count of it", x.count(13 + what), MOST[what]);
             due("count of the next", x.count(13 + (what + 1) % 6), FIRST[(what + 1) % 6]);
-            refused("set below the least", PromiseTests::busy, y -> y.set(what, LEAST[what] - 1), BAD_VALUE);
-            refused("set above the most", PromiseTests::busy, y -> y.set(what, MOST[what] + 1), BAD_VALUE);
-            undone("set to the same", PromiseTests::busy, y -> y.set(what, y.count(13 + what)));
-            undone("set to the most", PromiseTests::busy, y -> y.set(what, MOST[what]));
+            refused("set below the least", Checks::busy, y -> y.set(what, LEAST[what] - 1), BAD_VALUE);
+            refused("set above the most", Checks::busy, y -> y.set(what, MOST[what] + 1), BAD_VALUE);
+            undone("set to the same", Checks::busy, y -> y.set(what, y.count(13 + what)));
+            undone("set to the most", Checks::busy, y -> y.set(what, MOST[what]));
         }
-        for (int no : new int[] {Integer.MIN_VALUE, -1, 6, Integer.MAX_VALUE}) {
-            refused("set(" + no + ", 5)", PromiseTests::busy, y -> y.set(no, 5), BAD_VALUE);
+        for (int no : NO_SETTINGS) {
+            refused("set(" + no + ", 5)", Checks::busy, y -> y.set(no, 5), BAD_VALUE);
         }
         // A lower ENCORE brings an encore with the next clap only, a higher one takes none back.
         ApplauseTallies x = made(y -> {
@@ -254,15 +66,15 @@ public final class PromiseTests {
         due("loud(29, 9)", x.loud(29, 9), 3);
         due("of(0, 0)", x.of(0, 0), 9);
         due("of(1, 0)", x.of(1, 0), 3);
-        for (int no : OUTSIDE) {
-            refused("loud(" + no + ", 5)", PromiseTests::busy, y -> y.loud(no, 5), NO_SUCH);
-            refused("loud(" + no + ", 0)", PromiseTests::busy, y -> y.loud(no, 0), NO_SUCH);
-            refused("loud(0, " + no + ")", PromiseTests::busy, y -> y.loud(0, no), BAD_VALUE);
+        for (int no : NO_SEATS) {
+            refused("loud(" + no + ", 5)", Checks::busy, y -> y.loud(no, 5), NO_SUCH);
+            refused("loud(" + no + ", 0)", Checks::busy, y -> y.loud(no, 0), NO_SUCH);
+            refused("loud(0, " + no + ")", Checks::busy, y -> y.loud(0, no), BAD_VALUE);
         }
-        refused("loud(0, 0)", PromiseTests::busy, y -> y.loud(0, 0), BAD_VALUE);
-        refused("loud(0, 10)", PromiseTests::busy, y -> y.loud(0, 10), BAD_VALUE);
-        undone("loud", PromiseTests::busy, y -> y.loud(4, 9));
-        undone("loud to the same", PromiseTests::busy, y -> y.loud(4, 5));
+        refused("loud(0, 0)", Checks::busy, y -> y.loud(0, 0), BAD_VALUE);
+        refused("loud(0, 10)", Checks::busy, y -> y.loud(0, 10), BAD_VALUE);
+        undone("loud", Checks::busy, y -> y.loud(4, 9));
+        undone("loud to the same", Checks::busy, y -> y.loud(4, 5));
     }
 
     private static void paying() {
@@ -275,10 +87,10 @@ public final class PromiseTests {
         due("pay(0) again", x.pay(0), 1 << 5 | 1 << 29);
         due("of(0, 1)", x.of(0, 1), 0);
         due("count(10)", x.count(10), 1 << 5 | 1 << 29);
-        for (int no : OUTSIDE) {
-            refused("pay(" + no + ")", PromiseTests::busy, y -> y.pay(no), NO_SUCH);
+        for (int no : NO_SEATS) {
+            refused("pay(" + no + ")", Checks::busy, y -> y.pay(no), NO_SUCH);
         }
-        undone("pay", PromiseTests::busy, y -> y.pay(9));
+        undone("pay", Checks::busy, y -> y.pay(9));
         undone("pay of the last one", y -> y.pay(3), y -> y.pay(3));
     }
 
@@ -305,10 +117,10 @@ public final class PromiseTests {
         due("count(4) stays", x.count(4), 1);
         x.clap(3);
         due("count(4) for the next piece", x.count(4), 2);
-        for (int no : new int[] {Integer.MIN_VALUE, -1, 6, Integer.MAX_VALUE}) {
-            refused("ends(" + no + ")", PromiseTests::busy, y -> y.ends(no), NO_SUCH);
+        for (int no : NO_PERFORMERS) {
+            refused("ends(" + no + ")", Checks::busy, y -> y.ends(no), NO_SUCH);
         }
-        undone("ends", PromiseTests::busy, y -> y.ends(5));
+        undone("ends", Checks::busy, y -> y.ends(5));
     }
 
     private static void clapping() {
@@ -326,8 +138,8 @@ public final class PromiseTests {
         due("owed(0, 0)", x.owed(0, 0), 4);
         due("clap(2)", x.clap(2), 300);
         due("count(4): one for each piece", x.count(4), 1);
-        for (int no : OUTSIDE) {
-            refused("clap(" + no + ")", PromiseTests::busy, y -> y.clap(no), NO_SUCH);
+        for (int no : NO_SEATS) {
+            refused("clap(" + no + ")", Checks::busy, y -> y.clap(no), NO_SUCH);
             refused("clap(" + no + ") at first", y -> y.pay(1), y -> y.clap(no), NO_SUCH);
         }
         refused("clap(0) at first", y -> y.pay(1), y -> y.clap(0), NOT_POSSIBLE);
@@ -335,7 +147,7 @@ public final class PromiseTests {
             busy(y);
             y.night();
         }, y -> y.clap(0), NOT_POSSIBLE);
-        undone("clap", PromiseTests::busy, y -> y.clap(0));
+        undone("clap", Checks::busy, y -> y.clap(0));
         undone("clap that brings an encore", y -> {
             y.set(ENCORE, 30);
             y.ends(3);
@@ -397,7 +209,7 @@ public final class PromiseTests {
     }
 
     private static void encoreWithoutRoom() {
-        ApplauseTallies x = made(PromiseTests::fullHouse);
+        ApplauseTallies x = made(Checks::fullHouse);
         due("count(4)", x.count(4), 8);
         x.ends(2);
         due("clapsFor(0) without room", x.clapsFor(0), 1);
@@ -438,9 +250,9 @@ public final class PromiseTests {
         due("pass(1)", x.pass(1), 0);
         due("pass(1)", x.pass(1), 0);
         for (int no : new int[] {Integer.MIN_VALUE, -1, 0, 100, Integer.MAX_VALUE}) {
-            refused("pass(" + no + ")", PromiseTests::busy, y -> y.pass(no), BAD_VALUE);
+            refused("pass(" + no + ")", Checks::busy, y -> y.pass(no), BAD_VALUE);
         }
-        undone("pass", PromiseTests::busy, y -> y.pass(99));
+        undone("pass", Checks::busy, y -> y.pass(99));
         lapsing();
         timeAtItsMost();
     }
@@ -461,7 +273,7 @@ public final class PromiseTests {
     }
 
     private static void lapsing() {
-        ApplauseTallies x = made(PromiseTests::fullHouse);
+        ApplauseTallies x = made(Checks::fullHouse);
         // The encores came at the times 0 to 7, and it is 7 now.
         x.set(LAPSE, 9);
         due("pass(1)", x.pass(1) >= 0 ? x.count(4) : -1, 8);
@@ -487,7 +299,7 @@ public final class PromiseTests {
     }
 
     private static void playing() {
-        ApplauseTallies x = made(PromiseTests::fullHouse);
+        ApplauseTallies x = made(Checks::fullHouse);
         x.pass(1);
         due("play(0)", x.play(0), 1);
         due("count(0)", x.count(0), 0);
@@ -510,11 +322,11 @@ public final class PromiseTests {
         due("play(3)", x.play(3), 0);
         due("play(3) again", x.play(3), NOT_POSSIBLE);
         due("performer(3, 2)", x.performer(3, 2), 0);
-        for (int no : new int[] {Integer.MIN_VALUE, -1, 6, Integer.MAX_VALUE}) {
-            refused("play(" + no + ")", PromiseTests::fullHouse, y -> y.play(no), NO_SUCH);
+        for (int no : NO_PERFORMERS) {
+            refused("play(" + no + ")", Checks::fullHouse, y -> y.play(no), NO_SUCH);
         }
-        refused("play(0), none owed", PromiseTests::busy, y -> y.play(0), NOT_POSSIBLE);
-        undone("play", PromiseTests::fullHouse, y -> y.play(4));
+        refused("play(0), none owed", Checks::busy, y -> y.play(0), NOT_POSSIBLE);
+        undone("play", Checks::fullHouse, y -> y.play(4));
         x.night();
         due("record(0, 1)", x.record(0, 1), 2);
         due("count(5) stays", x.count(5), 2);
@@ -545,14 +357,14 @@ public final class PromiseTests {
             y.ends(0);
             y.clap(0);
         }, ApplauseTallies::call, NOT_POSSIBLE);
-        undone("call", PromiseTests::busy, ApplauseTallies::call);
+        undone("call", Checks::busy, ApplauseTallies::call);
         x.night();
         due("count(7)", x.count(7), 0);
         due("record(0, 3)", x.record(0, 3), 6);
     }
 
     private static void nightEnds() {
-        ApplauseTallies x = made(PromiseTests::fullHouse);
+        ApplauseTallies x = made(Checks::fullHouse);
         x.pay(7);
         x.ends(4);
         x.clap(3);
@@ -581,23 +393,18 @@ public final class PromiseTests {
         due("night() of nothing", x.night(), 0);
         due("record(0, 2)", x.record(0, 2), 0);
         due("record(1, 2)", x.record(1, 2), 9);
-        Script last = y -> {
-            for (int i = 0; i < 99; i++) {
-                y.night();
-            }
-        };
-        due("count(2)", made(last).count(2), 99);
-        refused("night() behind 99", last, ApplauseTallies::night, NOT_POSSIBLE);
-        undone("night", PromiseTests::busy, ApplauseTallies::night);
+        due("count(2)", made(Checks::lastNight).count(2), 99);
+        refused("night() behind 99", Checks::lastNight, ApplauseTallies::night, NOT_POSSIBLE);
+        undone("night", Checks::busy, ApplauseTallies::night);
         undone("night of nothing", y -> y.night(), ApplauseTallies::night);
     }
 
     private static void writing() {
         ApplauseTallies x = new ApplauseTallies();
         due("write()", x.write(), 8);
-        pad(x, "c0e0l0k0");
+        padIs(x, "c0e0l0k0");
         due("write() again", x.write(), 8);
-        pad(x, "c0e0l0k0");
+        padIs(x, "c0e0l0k0");
         x.set(ENCORE, 20);
         x.ends(5);
         x.clap(0);
@@ -610,22 +417,22 @@ public final class PromiseTests {
         x.call();
         fill(x, "long text that stands there");
         due("write()", x.write(), 18);
-        pad(x, "c102e0l0k1,2:1,5:2");
+        padIs(x, "c102e0l0k1,2:1,5:2");
         x.play(5);
         x.set(LAPSE, 1);
         x.pass(1);
         x.write();
-        pad(x, "c102e1l2k1");
+        padIs(x, "c102e1l2k1");
         x.night();
         x.write();
-        pad(x, "c0e0l0k0");
-        x = made(PromiseTests::fullHouse);
+        padIs(x, "c0e0l0k0");
+        x = made(Checks::fullHouse);
         x.write();
-        pad(x, "c8e0l0k0,0:2,1:2,2:1,3:1,4:1,5:1");
+        padIs(x, "c8e0l0k0,0:2,1:2,2:1,3:1,4:1,5:1");
         x.ends(0);
         x.clap(1);
         x.write();
-        pad(x, "c9e0l1k0,0:2,1:2,2:1,3:1,4:1,5:1");
+        padIs(x, "c9e0l1k0,0:2,1:2,2:1,3:1,4:1,5:1");
         quiet("write()", y -> {
             busy(y);
             y.wipe();
@@ -660,16 +467,16 @@ public final class PromiseTests {
         due("of(29, 3) stays for a late one", x.of(29, 3), 2);
         due("of(29, 4)", x.of(29, 4), 1);
         due("of(29, 6)", x.of(29, 6), 4);
-        for (int no : OUTSIDE) {
-            refused("of(" + no + ", 0)", PromiseTests::busy, y -> y.of(no, 0), NO_SUCH);
-            refused("of(" + no + ", 7)", PromiseTests::busy, y -> y.of(no, 7), NO_SUCH);
-            refused("of(0, " + no + ")", PromiseTests::busy, y -> y.of(0, no), BAD_VALUE);
+        for (int no : NO_SEATS) {
+            refused("of(" + no + ", 0)", Checks::busy, y -> y.of(no, 0), NO_SUCH);
+            refused("of(" + no + ", 7)", Checks::busy, y -> y.of(no, 7), NO_SUCH);
+            refused("of(0, " + no + ")", Checks::busy, y -> y.of(0, no), BAD_VALUE);
         }
-        refused("of(0, 7)", PromiseTests::busy, y -> y.of(0, 7), BAD_VALUE);
+        refused("of(0, 7)", Checks::busy, y -> y.of(0, 7), BAD_VALUE);
     }
 
     private static void aboutPerformer() {
-        ApplauseTallies x = made(PromiseTests::fullHouse);
+        ApplauseTallies x = made(Checks::fullHouse);
         x.play(1);
         x.set(LAPSE, 7);
         x.pass(1);
@@ -684,7 +491,7 @@ public final class PromiseTests {
         due("performer(1, 1) stays", x.performer(1, 1), 1);
         due("performer(0, 2) goes on", x.performer(0, 2), 2);
         due("performer(1, 3) stays", x.performer(1, 3), 3);
-        for (int no : new int[] {Integer.MIN_VALUE, -1, 6, Integer.MAX_VALUE}) {
+        for (int no : NO_PERFORMERS) {
             due("performer(" + no + ", 0)", x.performer(no, 0), NO_SUCH);
             due("performer(" + no + ", 4)", x.performer(no, 4), NO_SUCH);
             due("performer(5, " + no + ")", x.performer(5, no), BAD_VALUE);
@@ -693,7 +500,7 @@ public final class PromiseTests {
     }
 
     private static void owing() {
-        ApplauseTallies x = made(PromiseTests::fullHouse);
+        ApplauseTallies x = made(Checks::fullHouse);
         for (int rank = 0; rank < 8; rank++) {
             due("owed(" + rank + ", 0)", x.owed(rank, 0), rank % 6);
             due("owed(" + rank + ", 1)", x.owed(rank, 1), 7 - rank);
@@ -720,7 +527,7 @@ public final class PromiseTests {
         for (int rank = 0; rank < 30; rank++) {
             due("clapper(" + rank + ")", x.clapper(rank), 29 - rank);
         }
-        for (int no : OUTSIDE) {
+        for (int no : NO_SEATS) {
             due("clapper(" + no + ")", x.clapper(no), NO_SUCH);
         }
         x.ends(1);
@@ -852,9 +659,9 @@ public final class PromiseTests {
         x.set(DECAY, 1);
         due("quietIn(0)", x.quietIn(0), 180);
         for (int no : new int[] {Integer.MIN_VALUE, -1, 10000, Integer.MAX_VALUE}) {
-            refused("quietIn(" + no + ")", PromiseTests::busy, y -> y.quietIn(no), BAD_VALUE);
+            refused("quietIn(" + no + ")", Checks::busy, y -> y.quietIn(no), BAD_VALUE);
         }
-        quiet("quietIn(0)", PromiseTests::busy, y -> y.quietIn(0));
+        quiet("quietIn(0)", Checks::busy, y -> y.quietIn(0));
     }
 
     private static void clapsNeeded() {
@@ -890,15 +697,15 @@ public final class PromiseTests {
         due("clapsFor(1) for the next piece", x.clapsFor(1), 2);
         x.night();
         due("clapsFor(1) in the next night", x.clapsFor(1), NOT_POSSIBLE);
-        for (int no : OUTSIDE) {
-            refused("clapsFor(" + no + ")", PromiseTests::busy, y -> y.clapsFor(no), NO_SUCH);
+        for (int no : NO_SEATS) {
+            refused("clapsFor(" + no + ")", Checks::busy, y -> y.clapsFor(no), NO_SUCH);
             due("clapsFor(" + no + ") at first", new ApplauseTallies().clapsFor(no), NO_SUCH);
         }
-        quiet("clapsFor(0)", PromiseTests::busy, y -> y.clapsFor(0));
+        quiet("clapsFor(0)", Checks::busy, y -> y.clapsFor(0));
     }
 
     private static void lapsesWhen() {
-        ApplauseTallies x = made(PromiseTests::fullHouse);
+        ApplauseTallies x = made(Checks::fullHouse);
         due("lapsesIn(0): the earliest one", x.lapsesIn(0), 53);
         due("lapsesIn(1)", x.lapsesIn(1), 54);
         due("lapsesIn(5)", x.lapsesIn(5), 58);
@@ -911,10 +718,10 @@ public final class PromiseTests {
         due("lapsesIn(5)", x.lapsesIn(5), 1);
         x.set(LAPSE, 300);
         due("lapsesIn(5)", x.lapsesIn(5), 298);
-        for (int no : new int[] {Integer.MIN_VALUE, -1, 6, Integer.MAX_VALUE}) {
-            refused("lapsesIn(" + no + ")", PromiseTests::busy, y -> y.lapsesIn(no), NO_SUCH);
+        for (int no : NO_PERFORMERS) {
+            refused("lapsesIn(" + no + ")", Checks::busy, y -> y.lapsesIn(no), NO_SUCH);
         }
-        quiet("lapsesIn(2)", PromiseTests::busy, y -> y.lapsesIn(2));
+        quiet("lapsesIn(2)", Checks::busy, y -> y.lapsesIn(2));
     }
 
     private static void curtainsLeft() {
@@ -932,7 +739,7 @@ public final class PromiseTests {
         due("calls()", x.calls(), 6);
         x.call();
         due("calls() behind call()", x.calls(), 5);
-        quiet("calls()", PromiseTests::busy, ApplauseTallies::calls);
+        quiet("calls()", Checks::busy, ApplauseTallies::calls);
     }
 
     private static void foundOtherwise() {
@@ -955,9 +762,9 @@ public final class PromiseTests {
         }
         due("count(17) stays", x.count(17), 3);
         for (int no : new int[] {Integer.MIN_VALUE, -1, 0, 10, Integer.MAX_VALUE}) {
-            refused("ifFound(" + no + ")", PromiseTests::busy, y -> y.ifFound(no), BAD_VALUE);
+            refused("ifFound(" + no + ")", Checks::busy, y -> y.ifFound(no), BAD_VALUE);
         }
-        quiet("ifFound(1)", PromiseTests::busy, y -> y.ifFound(1));
+        quiet("ifFound(1)", Checks::busy, y -> y.ifFound(1));
     }
 
     private static void putting() {
@@ -965,13 +772,13 @@ public final class PromiseTests {
         due("put of 1", x.put('c'), 1);
         due("put of 8", x.put(packed("!~345678")), 9);
         due("put of 3", x.put(packed("xyz")), 12);
-        pad(x, "c!~345678xyz");
+        padIs(x, "c!~345678xyz");
         due("count(20)", x.count(20), 0);
         long[] bad = {0, 32, 127, 128, 255, 256, -1, Long.MIN_VALUE, Long.MAX_VALUE, packed("a") << 8,
             packed("a") << 16 | 'b', packed("a") << 56 | 'b', 1L << 56 | 'b', packed("ab") << 8,
             packed("ab cd"), packed("abcdefg") << 8, 200L << 56 | packed("abcdefg"), 1L << 8 | 'a'};
         for (long no : bad) {
-            refused("put(" + no + ")", PromiseTests::busy, y -> y.put(no), BAD_VALUE);
+            refused("put(" + no + ")", Checks::busy, y -> y.put(no), BAD_VALUE);
         }
         Script nearly = y -> fill(y, "y".repeat(78));
         refused("put of 3 to 78", nearly, y -> y.put(packed("abc")), TOO_MANY);
@@ -980,7 +787,7 @@ public final class PromiseTests {
         due("put of 2 to 78", z.put(packed("ab")), 80);
         due("put of 1 to 80", z.put('a'), TOO_MANY);
         due("put of none to 80", z.put(0), BAD_VALUE);
-        pad(z, "y".repeat(78) + "ab");
+        padIs(z, "y".repeat(78) + "ab");
     }
 
     private static void wiping() {
@@ -994,14 +801,14 @@ public final class PromiseTests {
         due("wipe() of 80", x.wipe(), 80);
         due("count(20)", x.count(20), 0);
         due("put", x.put('k'), 1);
-        pad(x, "k");
+        padIs(x, "k");
     }
 
     private static void faultIs(String text, int want) {
         ApplauseTallies x = new ApplauseTallies();
         fill(x, text);
         due("fault() of " + text, x.fault(), want);
-        pad(x, text);
+        padIs(x, text);
         due("count(20)", x.count(20), 0);
     }
 
@@ -1060,11 +867,6 @@ public final class PromiseTests {
         due("fault() of e1 behind a longer text", x.fault(), NONE);
     }
 
-    private static int carried(ApplauseTallies x, String text) {
-        fill(x, text);
-        return x.carryOut();
-    }
-
     private static void carrying() {
         ApplauseTallies x = new ApplauseTallies();
         due("carryOut()", carried(x, "h3;e2;c3*2;c4;w2;p2;k"), 6);
@@ -1091,7 +893,7 @@ public final class PromiseTests {
         undone("carryOut", wiped, y -> carried(y, "e1;c2*9;w5;h7;n;e0;c5"));
         undone("carryOut of none", wiped, y -> carried(y, "w0;n"));
         // One change with all of them, and also if none is carried out.
-        ApplauseTallies z = made(PromiseTests::busy);
+        ApplauseTallies z = made(Checks::busy);
         z.undo();
         due("count(20)", z.count(20), 5);
         due("carryOut()", carried(z, "e1;n;e2;c5"), 4);
@@ -1216,7 +1018,7 @@ public final class PromiseTests {
     }
 
     private static void saving() {
-        ApplauseTallies x = made(PromiseTests::busy);
+        ApplauseTallies x = made(Checks::busy);
         due("save(1)", x.save(1), 1);
         x.night();
         due("save(1) over it", x.save(1), 2);
@@ -1224,7 +1026,7 @@ public final class PromiseTests {
         due("restore(1)", x.restore(1), 2);
         due("restore(0) keeps its own", x.restore(0), 0);
         for (int no : new int[] {Integer.MIN_VALUE, -1, 2, Integer.MAX_VALUE}) {
-            refused("save(" + no + ")", PromiseTests::busy, y -> y.save(no), BAD_VALUE);
+            refused("save(" + no + ")", Checks::busy, y -> y.save(no), BAD_VALUE);
         }
         ApplauseTallies y = new ApplauseTallies();
         y.pay(1);
@@ -1241,7 +1043,7 @@ public final class PromiseTests {
     }
 
     private static void restoring() {
-        same("restore brings all back", PromiseTests::busyAndSaved, y -> {
+        sameNow("restore brings all back", PromiseTests::busyAndSaved, y -> {
             busyAndSaved(y);
             y.undo();
             fill(y, "e0;c1*3;w9;h2;n;e1;c2");
@@ -1262,11 +1064,11 @@ public final class PromiseTests {
         due("of(3, 6)", x.of(3, 6), 0);
         x.undo();
         due("of(3, 6) behind undo()", x.of(3, 6), 1);
-        refused("restore(1) of nothing", PromiseTests::busy, y -> y.restore(1), NOT_POSSIBLE);
+        refused("restore(1) of nothing", Checks::busy, y -> y.restore(1), NOT_POSSIBLE);
         for (int no : new int[] {Integer.MIN_VALUE, -1, 2, Integer.MAX_VALUE}) {
-            refused("restore(" + no + ")", PromiseTests::busy, y -> y.restore(no), BAD_VALUE);
+            refused("restore(" + no + ")", Checks::busy, y -> y.restore(no), BAD_VALUE);
         }
-        undone("restore", PromiseTests::busy, y -> y.restore(0));
+        undone("restore", Checks::busy, y -> y.restore(0));
         undone("restore of the same", PromiseTests::busyAndSaved, y -> y.restore(0));
     }
 
@@ -1283,7 +1085,7 @@ public final class PromiseTests {
             x -> foundOtherwise(), x -> putting(), x -> wiping(), x -> faults(), x -> carrying(), x -> undoing(),
             x -> saving(), x -> restoring()};
         for (int i = 0; i < promises.length; i++) {
-            promise = i + 1;
+            place = "promise " + (i + 1);
             promises[i].on(null);
         }
         System.out.println(right + " checks of " + promises.length + " promises right, " + wrong + " wrong");
