@@ -1,4 +1,5 @@
 import java.io.IOException;
+import java.lang.reflect.InvocationTargetException;
 import java.lang.reflect.Method;
 import java.nio.file.Path;
 import java.util.Arrays;
@@ -45,7 +46,11 @@ public final class BoundaryTests extends Checks {
         }
         place = says.toString();
         int before = right + wrong;
-        test.invoke(null);
+        try {
+            test.invoke(null);
+        } catch (InvocationTargetException thrown) {
+            complain(place + ": threw " + thrown.getCause());
+        }
         if (right + wrong == before) {
             complain(test.getName() + " checks nothing");
         }

@@ -24,8 +24,12 @@ final class ChangeBoundaries extends Checks {
 
     @Says(in = "Promise 1", value = "Creates a house in its first night, at the time 0.")
     static void newHouseBesideAnother() {
-        ApplauseTallies other = made(Checks::busy);
-        same("a new object beside another one", x -> { }, x -> other.pass(9));
+        same("a new object beside a later one", x -> { }, x -> busy(new ApplauseTallies()));
+        ApplauseTallies earlier = made(Checks::busy);
+        same("a new object beside an earlier one", x -> { }, x -> {
+            earlier.pass(9);
+            earlier.put('x');
+        });
     }
 
     // ---- Promise 2: set

@@ -124,12 +124,12 @@ class Checks {
             all.add(x.owed(rank, 1));
         }
         int seat = x.clapper(0);
-        for (int rank = 1; seat >= 0; rank++) {
+        for (int rank = 1; seat >= 0 && rank < 32; rank++) {
             all.add(seat);
             seat = x.clapper(rank);
         }
         int claps = x.record(0, 0);
-        for (int rank = 1; claps >= 0; rank++) {
+        for (int rank = 1; claps >= 0 && rank < 8; rank++) {
             all.add(claps);
             for (int what = 1; what < 4; what++) {
                 all.add(x.record(rank - 1, what));
@@ -139,8 +139,8 @@ class Checks {
     }
 
     private static void tellHistory(ApplauseTallies x, List<Integer> all) {
-        for (int left = x.undo(); left >= 0; left = x.undo()) {
-            all.add(left);
+        for (int i = 0; i < 7; i++) {
+            all.add(x.undo());
             all.add(x.count(0));
             all.add(x.count(1));
             all.add(x.count(2));

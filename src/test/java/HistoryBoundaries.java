@@ -88,7 +88,8 @@ final class HistoryBoundaries extends Checks {
         + "different then)")
     static void eachChangeRecords() {
         Call[] changes = {x -> x.set(EARLY, 2), x -> x.loud(0, 3), x -> x.pay(0), x -> x.ends(0), x -> x.clap(0), x -> x.pass(1),
-            x -> x.play(0), ApplauseTallies::call, ApplauseTallies::night, x -> carried(x, "k"), x -> x.restore(0)};
+            x -> x.play(0), ApplauseTallies::call, ApplauseTallies::night, x -> carried(x, "k"), x -> carried(x, "w0"),
+            x -> x.restore(0)};
         for (int i = 0; i < changes.length; i++) {
             ApplauseTallies x = made(y -> {
                 fullHouse(y);

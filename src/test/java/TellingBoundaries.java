@@ -184,6 +184,12 @@ final class TellingBoundaries extends Checks {
         x.clap(0);
         due("clapper(0): the order of the night, not of the piece", x.clapper(0), 29);
         due("clapper(29)", x.clapper(29), 0);
+        due("clapper(30): once in a night, not once for each piece", x.clapper(30), NO_SUCH);
+        ApplauseTallies y = made(z -> carried(z, "e0;c5;c7;e1;c7;c5;c9"));
+        int[] seats = {5, 7, 9, NO_SUCH};
+        for (int rank = 0; rank < 4; rank++) {
+            due("clapper(" + rank + ") of two pieces", y.clapper(rank), seats[rank]);
+        }
     }
 
     @Says(in = "Promise 15", value = "Returns the seat; NO_SUCH if there are not so many.")
