@@ -22,6 +22,11 @@ public final class FaceTest {
         + "|import|volatile|transient|native|Object|equals|hashCode|toString|\\w+Exact|Math\\.random|Thread|Random"
         + "|nanoTime|currentTimeMillis)\\b|->|::|@");
 
+    /** The library's classes that LANGUAGE.md lists, by a name that begins like one of a class. */
+    private static final Pattern CLASS_NAME = Pattern.compile("\\b[A-Z]\\w*[a-z]\\w*\\b");
+    private static final Set<String> LISTED = Set.of("String", "StringBuilder", "ArrayList", "List", "Integer", "Long",
+        "Math", "Iterator", "Iterable", "Comparable", "System", "Arrays");
+
     private static int wrong = 0;
 
     private static void wrong(String what) {
@@ -86,9 +91,14 @@ public final class FaceTest {
             }
         }
         same("the methods", methods, METHODS);
+        for (Class<?> one : face.getDeclaredClasses()) {
+            for (Method method : one.getDeclaredMethods()) {
+                hidden.add(method.getName());
+            }
+        }
         hidden.retainAll(names);
         if (!hidden.isEmpty()) {
-            wrong("private methods with public names: " + hidden);
+            wrong("methods that are not public with public names: " + hidden);
         }
     }
 
@@ -120,6 +130,17 @@ public final class FaceTest {
         Matcher matcher = RULED_OUT.matcher(code);
         while (matcher.find()) {
             wrong("the source holds " + matcher.group());
+        }
+        Set<String> known = new TreeSet<>(LISTED);
+        known.add("ApplauseTallies");
+        for (Class<?> one : ApplauseTallies.class.getDeclaredClasses()) {
+            known.add(one.getSimpleName());
+        }
+        Matcher name = CLASS_NAME.matcher(code);
+        while (name.find()) {
+            if (!known.contains(name.group())) {
+                wrong("the source uses " + name.group());
+            }
         }
         if (!text.chars().allMatch(sign -> sign < 128)) {
             wrong("the source holds a sign above 127");
