@@ -15,8 +15,8 @@ import java.util.stream.Stream;
 
 /**
  * Makes each call that README.md shows, and compares its answer with the one told there, and the pad with a text told
- * in quotes. A line of its code that cannot be read, a method of the class that it does not show and a file of the tests
- * that it does not name make it fail.
+ * in quotes. It fails, too, if there is a line of code that it cannot read, a method of the class that is not shown, or
+ * a file of the tests that is not named.
  */
 public final class ReadmeTest {
     private static final Pattern BLOCK = Pattern.compile("(?ms)^```java\n(.*?)^```$");
